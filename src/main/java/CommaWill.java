@@ -95,7 +95,7 @@ public final class CommaWill {
     private static final int OP_MASK = 15;
 
     /** No SUM can be this number: none goes beyond 1,000,000,000. */
-    private static final int BROKEN = Integer.MIN_VALUE;
+    private static final int BROKEN = -2000000000;
     private static final long MOST_SUM = 1000000000L;
 
     private static final long WHOLE_CHANCE = 1000000000000L;
@@ -722,7 +722,7 @@ public final class CommaWill {
     }
 
     private int leastOf(int reading, int mask) {
-        int least = Integer.MAX_VALUE;
+        int least = MOST_AMOUNT;
         for (int p = 0; p < PERSONS; p++) {
             if (bit(mask, p) == 1) {
                 least = Math.min(least, amount(reading, p));
@@ -1125,11 +1125,12 @@ public final class CommaWill {
             boolean ends = false;
             boolean goesOn = true;
             for (int c = 0; c < MOST_CLAUSES && goesOn; c++) {
-                goesOn = lawful ? lawClause(c) : orderClause(c);
+                goesOn = (lawful ? lawClause(c) : orderClause(c)) && condition(c);
                 if (goesOn) {
                     text.clauses = c + 1;
                     ends = start >= length;
-                    goesOn = !ends && expect(';');
+                    goesOn = !ends && (isSign(';') || fail());
+                    advance();
                 }
             }
             if (goesOn) {
@@ -1146,14 +1147,11 @@ public final class CommaWill {
             }
             advance();
             begin(c, head);
-            if (head != BARS) {
-                text.first[c] = text.size;
-                if (!sum()) {
-                    return false;
-                }
-                text.emit(OP_END, 0);
+            if (head == BARS) {
+                return true;
             }
-            return condition(c);
+            text.first[c] = text.size;
+            return sum(false) && finish();
         }
 
         private boolean orderClause(int c) {
@@ -1165,10 +1163,9 @@ public final class CommaWill {
             begin(c, head);
             if (head != TO_PASS) {
                 text.first[c] = text.size;
-                if (!sum()) {
+                if (!sum(false) || !finish()) {
                     return false;
                 }
-                text.emit(OP_END, 0);
             }
             if (head == TO_MARK || head == TO_TURN) {
                 if (wordIn(head == TO_MARK ? "as" : "to") == NONE) {
@@ -1176,10 +1173,9 @@ public final class CommaWill {
                 }
                 advance();
                 text.second[c] = text.size;
-                if (!sum()) {
+                if (!sum(false) || !finish()) {
                     return false;
                 }
-                text.emit(OP_END, 0);
             }
             if (wordIn("times") != NONE) {
                 advance();
@@ -1190,7 +1186,7 @@ public final class CommaWill {
                 advance();
                 text.repeats[c] = often;
             }
-            return condition(c);
+            return true;
         }
 
         private void begin(int c, int head) {
@@ -1201,42 +1197,31 @@ public final class CommaWill {
             text.repeats[c] = 1;
         }
 
+        /** The code of a SUM, a TEST has its end here. */
+        private boolean finish() {
+            text.emit(OP_END, 0);
+            return true;
+        }
+
         private boolean condition(int c) {
             if (wordIn("if") == NONE) {
                 return true;
             }
             advance();
             text.test[c] = text.size;
-            if (!test()) {
-                return false;
-            }
-            text.emit(OP_END, 0);
-            return true;
+            return test(false) && finish();
         }
 
-        private boolean test() {
-            if (!both()) {
+        /** A TEST, or a BOTH of one; the brackets' limit keeps it from going deep. */
+        private boolean test(boolean isBoth) {
+            String link = isBoth ? "and" : "or";
+            if (isBoth ? !plain() : !test(true)) {
                 return false;
             }
-            for (int i = 0; i < MOST_BYTES && wordIn("or") != NONE; i++) {
+            for (int i = 0; i < MOST_BYTES && wordIn(link) != NONE; i++) {
                 advance();
-                int skip = text.emit(OP_OR, 0);
-                if (!both()) {
-                    return false;
-                }
-                text.skipToHere(skip);
-            }
-            return true;
-        }
-
-        private boolean both() {
-            if (!plain()) {
-                return false;
-            }
-            for (int i = 0; i < MOST_BYTES && wordIn("and") != NONE; i++) {
-                advance();
-                int skip = text.emit(OP_AND, 0);
-                if (!plain()) {
+                int skip = text.emit(isBoth ? OP_AND : OP_OR, 0);
+                if (isBoth ? !plain() : !test(true)) {
                     return false;
                 }
                 text.skipToHere(skip);
@@ -1251,11 +1236,21 @@ public final class CommaWill {
                 advance();
             }
             if (isSign('(')) {
-                if (!enter() || !test() || !leave(')')) {
+                if (open >= MOST_OPEN) {
+                    return fail();
+                }
+                open++;
+                advance();
+                if (!test(false)) {
                     return false;
                 }
+                if (!isSign(')')) {
+                    return fail();
+                }
+                open--;
+                advance();
             } else {
-                if (!sum()) {
+                if (!sum(false)) {
                     return false;
                 }
                 int op = isSign('<') ? OP_BELOW : isSign('>') ? OP_ABOVE : OP_EQUAL;
@@ -1263,7 +1258,7 @@ public final class CommaWill {
                     return fail();
                 }
                 advance();
-                if (!sum()) {
+                if (!sum(false)) {
                     return false;
                 }
                 text.emit(op, 0);
@@ -1274,39 +1269,56 @@ public final class CommaWill {
             return true;
         }
 
-        private boolean sum() {
-            if (!term()) {
+        /** A SUM, or a TERM of one; the brackets' limit keeps it from going deep. */
+        private boolean sum(boolean isTerm) {
+            if (isTerm ? !part() : !sum(true)) {
                 return false;
             }
-            for (int i = 0; i < MOST_BYTES && (isSign('+') || isSign('-')); i++) {
-                int op = isSign('+') ? OP_ADD : OP_LESSEN;
+            int op = isTerm ? termSign() : sumSign();
+            for (int i = 0; i < MOST_BYTES && op != NONE; i++) {
                 advance();
-                if (!term()) {
+                if (isTerm ? !part() : !sum(true)) {
                     return false;
                 }
                 text.emit(op, 0);
+                op = isTerm ? termSign() : sumSign();
             }
             return true;
         }
 
-        private boolean term() {
-            if (!part()) {
-                return false;
+        private int termSign() {
+            if (isSign('*')) {
+                return OP_TIMES;
             }
-            for (int i = 0; i < MOST_BYTES && (isSign('*') || isSign('/') || isSign('%')); i++) {
-                int op = isSign('*') ? OP_TIMES : isSign('/') ? OP_DIVIDE : OP_REST;
-                advance();
-                if (!part()) {
-                    return false;
-                }
-                text.emit(op, 0);
+            if (isSign('/')) {
+                return OP_DIVIDE;
             }
-            return true;
+            return isSign('%') ? OP_REST : NONE;
+        }
+
+        private int sumSign() {
+            if (isSign('+')) {
+                return OP_ADD;
+            }
+            return isSign('-') ? OP_LESSEN : NONE;
         }
 
         private boolean part() {
             if (isSign('[')) {
-                return enter() && sum() && leave(']');
+                if (open >= MOST_OPEN) {
+                    return fail();
+                }
+                open++;
+                advance();
+                if (!sum(false)) {
+                    return false;
+                }
+                if (!isSign(']')) {
+                    return fail();
+                }
+                open--;
+                advance();
+                return true;
             }
             int number = number();
             int word = wordIn(lawful ? LAW_WORDS : ORDER_WORDS);
@@ -1325,32 +1337,10 @@ public final class CommaWill {
                     return fail();
                 }
                 advance();
-                word = word == ORDER_MARK ? ORDER_MARK + j : ORDER_KIND + j;
+                // In the list "kind" stands right behind "mark", which takes six words here.
+                word = (word == ORDER_MARK ? ORDER_MARK : ORDER_KIND) + j;
             }
             text.emit(OP_WORD, word);
-            return true;
-        }
-
-        /** Goes into a bracket, unless it lies too deep. */
-        private boolean enter() {
-            if (open >= MOST_OPEN) {
-                return fail();
-            }
-            open++;
-            advance();
-            return true;
-        }
-
-        private boolean leave(char sign) {
-            open--;
-            return expect(sign);
-        }
-
-        private boolean expect(char sign) {
-            if (!isSign(sign)) {
-                return fail();
-            }
-            advance();
             return true;
         }
 

@@ -39,6 +39,9 @@ public final class RandomRunsTest {
 
     private void play(int run) {
         int names = run % 9;
+        if (random.nextInt(4) == 0) {
+            same("image", random.nextInt(2));
+        }
         for (int i = 0; i < names; i++) {
             same("name", i == 0 ? 0 : random.nextInt(3), i == 0 ? 0 : random.nextInt(5) / 3,
                     random.nextInt(6));
@@ -115,6 +118,12 @@ public final class RandomRunsTest {
                 break;
             case 4:
                 same("back", some(2));
+                if (random.nextInt(3) == 0) {
+                    same("forget");
+                    same("name", some(3), some(4), some(6));
+                    same("told", some(6), 500);
+                    same("judge", reading());
+                }
                 break;
             case 5:
                 same("force", some(Math.max(1, y.count(4))));
@@ -145,6 +154,9 @@ public final class RandomRunsTest {
         for (int i = 0; i < many; i++) {
             bytes.append((char) random.nextInt(4)).append((char) random.nextInt(5));
             bytes.append((char) (random.nextInt(12) == 0 ? 255 : random.nextInt(7)));
+        }
+        if (random.nextInt(3) == 0) {
+            bytes.append((char) 0).append("\0".repeat(random.nextInt(2)));
         }
         put(bytes.toString());
         same("row");
