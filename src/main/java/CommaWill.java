@@ -111,9 +111,9 @@ public final class CommaWill {
     private final Reader reader = new Reader();
     private final Sums orderSums = new Sums();
     private final Forest forest = new Forest();
-    private final Ledger ledger = new Ledger(forest);
-    private final Paper paper = new Paper(forest);
-    private final Settler settler = new Settler(forest);
+    private final Ledger ledger = new Ledger();
+    private final Paper paper = new Paper();
+    private final Settler settler = new Settler();
     private final int[] fitting = new int[MOST_TREES];
     private final long[] chances = new long[MOST_FEW];
     private final int[] refusals = new int[5];
@@ -402,7 +402,7 @@ public final class CommaWill {
             for (int t = 0; t < forest.trees; t++) {
                 ledger.know(t);
             }
-            settler.search(tree, ledger, will.marks);
+            settler.search(tree, forest, ledger, will.marks);
         }
         if (settler.more == NONE || what == 0) {
             return settler.more;
@@ -543,7 +543,7 @@ public final class CommaWill {
         if (!isBelow(reading, sift()) || !isBelow(person, PERSONS)) {
             return NONE;
         }
-        paper.take(will, will.lawOf(law), will.terms[YEAR], will.living);
+        paper.take(will, forest, will.lawOf(law), will.terms[YEAR], will.living);
         paper.divide(forest.list[reading]);
         return paper.would[person];
     }
@@ -702,7 +702,7 @@ public final class CommaWill {
     private int freshen() {
         int count = sift();
         if (stale) {
-            ledger.open(will);
+            ledger.open(will, forest);
             stale = false;
         }
         return count;
@@ -778,7 +778,7 @@ public final class CommaWill {
         if (count <= 1) {
             return true;
         }
-        paper.take(will, will.lawOf(will.inForce), year, living);
+        paper.take(will, forest, will.lawOf(will.inForce), year, living);
         for (int r = 0; r < count; r++) {
             paper.divide(forest.list[r]);
             for (int p = 0; p < PERSONS; p++) {
@@ -1556,18 +1556,15 @@ public final class CommaWill {
         final int[] first = new int[PERSONS];
         int barred = 0;
         int fit = 0;
-        private final Forest forest;
         private final Sums sums = new Sums();
+        private Forest forest = null;
         private Will will = null;
         private Text law = null;
         private int base = 0;
 
-        Paper(Forest trees) {
-            forest = trees;
-        }
-
-        void take(Will given, Text byLaw, int year, int living) {
+        void take(Will given, Forest trees, Text byLaw, int year, int living) {
             will = given;
+            forest = trees;
             law = byLaw;
             sums.words[LAW_YEAR] = year;
             sums.words[LAW_MOOD] = given.terms[MOOD];
@@ -1584,7 +1581,7 @@ public final class CommaWill {
             for (int p = 0; p < PERSONS; p++) {
                 would[p] = 0;
             }
-            if (will == null || will.names == 0) {
+            if (will == null || forest == null || will.names == 0) {
                 return;
             }
             base = tree * MOST_JOINS;
@@ -1694,15 +1691,11 @@ public final class CommaWill {
     /** What each tree gives to each PERSON by all that stands, found out when it is asked for. */
     private static final class Ledger {
         final int[] got = new int[MOST_TREES * PERSONS];
-        final Paper paper;
+        final Paper paper = new Paper();
         private final boolean[] isKnown = new boolean[MOST_TREES];
 
-        Ledger(Forest forest) {
-            paper = new Paper(forest);
-        }
-
-        void open(Will will) {
-            paper.take(will, will.lawOf(will.inForce), will.terms[YEAR], will.living);
+        void open(Will will, Forest forest) {
+            paper.take(will, forest, will.lawOf(will.inForce), will.terms[YEAR], will.living);
             for (int t = 0; t < MOST_TREES; t++) {
                 isKnown[t] = false;
             }
@@ -1734,19 +1727,16 @@ public final class CommaWill {
         /** The answer: how many MARKS more (NONE: it can't be), and the MARKS then. */
         int more = NONE;
         final int[] trial = new int[MOST_JOINS];
-        private final Forest forest;
         /** The trees that give otherwise: none of these may be a READING then. */
         private final long[] wrong = new long[SET];
+        private Forest forest = null;
         private int[] least = null;
 
-        Settler(Forest trees) {
-            forest = trees;
-        }
-
         /** The caller has looked that the ledger knows all trees. */
-        void search(int wanted, Ledger ledger, int[] marks) {
+        void search(int wanted, Forest trees, Ledger ledger, int[] marks) {
             tree = wanted;
             more = NONE;
+            forest = trees;
             least = marks;
             for (int i = 0; i < SET; i++) {
                 wrong[i] = 0;
