@@ -1,9 +1,6 @@
 /** Each promise of the document by itself: ordinary inputs, the edges that it names, wrong inputs. */
-public final class PromiseTest {
+public final class PromiseTest extends Wills {
     private static final Check CHECK = new Check();
-    private static final int AND = 0;
-    private static final int OR = 1;
-    private static final int BUT = 2;
 
     private PromiseTest() {
     }
@@ -51,40 +48,6 @@ public final class PromiseTest {
 
     private static void due(String call, long got, long want) {
         CHECK.due(call, got, want);
-    }
-
-    /** A will of AND, OR, BUT between persons: "0&1|2!3"; a mark may stand behind a sign. */
-    private static CommaWill will(String sentence) {
-        CommaWill x = new CommaWill();
-        int kind = 0;
-        int mark = 0;
-        boolean isPerson = true;
-        for (int i = 0; i < sentence.length(); i++) {
-            char c = sentence.charAt(i);
-            int sign = "&|!".indexOf(c);
-            if (sign >= 0) {
-                kind = sign;
-                mark = 0;
-                isPerson = i + 2 >= sentence.length()
-                        || "&|!".indexOf(sentence.charAt(i + 2)) >= 0;
-            } else if (isPerson) {
-                x.name(kind, mark, c - '0');
-            } else {
-                mark = c - '0';
-                isPerson = true;
-            }
-        }
-        return x;
-    }
-
-    private static int law(CommaWill x, String text) {
-        Check.put(x, text);
-        return x.law();
-    }
-
-    private static int orders(CommaWill x, String text) {
-        Check.put(x, text);
-        return x.orders();
     }
 
     private static CommaWill withLaw(String sentence, String text) {
@@ -215,18 +178,10 @@ public final class PromiseTest {
         due("nor is a refusal", x.count(7), 0);
     }
 
-    private static void row(CommaWill x, int... bytes) {
-        StringBuilder text = new StringBuilder();
-        for (int b : bytes) {
-            text.append((char) b);
-        }
-        Check.put(x, text.toString());
-    }
-
     private static void rowAndBlots() {
         CommaWill x = new CommaWill();
         due("no bytes", x.row(), -6);
-        row(x, 1, 0, 2, 0, 1, 2, 0, 0, 2, 1, 3, 5, 0, 0, 255);
+        putBytes(x, 1, 0, 2, 0, 1, 2, 0, 0, 2, 1, 3, 5, 0, 0, 255);
         due("two came", x.row(), 2);
         due("three blots", x.blots(), 3);
         due("the tape is empty", x.count(6), 0);
@@ -235,15 +190,15 @@ public final class PromiseTest {
         due("mark", x.join(0, 1), 3);
         due("no bytes again", x.row(), -6);
         due("blots stay", x.blots(), 3);
-        row(x, 0, 0, 0, 0, 0, 0, 0, 0, 0, 0, 0, 0, 0, 0, 0, 0, 0, 0, 0, 0);
+        putBytes(x, 0, 0, 0, 0, 0, 0, 0, 0, 0, 0, 0, 0, 0, 0, 0, 0, 0, 0, 0, 0);
         due("five have room", x.row(), 5);
         due("one has none, one ends within", x.blots(), 2);
-        row(x, 0);
+        putBytes(x, 0);
         due("one byte", x.row(), 0);
         due("one blot", x.blots(), 1);
         due("seven", x.count(0), 7);
         x = new CommaWill();
-        row(x, 0, 0, 1, 0, 0, 2);
+        putBytes(x, 0, 0, 1, 0, 0, 2);
         x.end(5);
         due("what the tape had counts not", x.row(), 1);
         due("the second ends within", x.blots(), 1);
@@ -685,7 +640,7 @@ public final class PromiseTest {
         x.terms(3, 1);
         due("behind terms", x.undo(), -3);
         x.pass();
-        row(x, 9);
+        putBytes(x, 9);
         x.row();
         due("behind row", x.undo(), -3);
         x.pass();
@@ -1118,7 +1073,7 @@ public final class PromiseTest {
 
     private static void changeAll(CommaWill x) {
         orders(x, "pass; die 5");
-        row(x, 0, 0, 0, 9);
+        putBytes(x, 0, 0, 0, 9);
         x.row();
         x.mark(0, 2);
         x.turn(1, 0);
@@ -1279,7 +1234,7 @@ public final class PromiseTest {
         due("orders", x.status(), 0);
         orders(x, "die 9");
         due("orders", x.status(), -3);
-        row(x, 0);
+        putBytes(x, 0);
         x.row();
         due("row", x.status(), 0);
         x.row();
