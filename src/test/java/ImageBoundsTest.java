@@ -13,9 +13,11 @@ public final class ImageBoundsTest extends Wills {
         nothingToUndoBehindBack();
         imagesStay();
         imagesAreApart();
+        imagesOverOneAnother();
         fullImages();
         counts();
         refusalsAreCounted();
+        othersAreNotCounted();
         refusalsAreNotKept();
         countNone();
         statusOfEach();
@@ -136,6 +138,8 @@ public final class ImageBoundsTest extends Wills {
         isRich(x);
         CommaWill y = new CommaWill();
         y.image(1);
+        write(y, "0&1");
+        DOC.due("a reading", y.readings(), 1);
         spoil(y);
         y.back(1);
         DOC.due("without names", y.count(0), 0);
@@ -235,6 +239,39 @@ public final class ImageBoundsTest extends Wills {
         DOC.due("its worth", x.count(14), 1);
     }
 
+    private static void imagesOverOneAnother() {
+        DOC.says("all gone back to");
+        CommaWill x = new CommaWill();
+        x.image(0);
+        write(x, "3|24");
+        law(x, "shares 10; taxes 10");
+        x.told(3, 900);
+        x.judge(0);
+        x.force(0);
+        DOC.due("readings", x.readings(), 1);
+        x.image(1);
+        x.back(0);
+        DOC.due("no readings", x.readings(), 0);
+        DOC.due("nobody's", x.who(0), NONE);
+        write(x, "1&2");
+        law(x, "shares 20");
+        x.told(1, 7);
+        x.judge(9);
+        x.force(0);
+        DOC.due("by another law 0", x.gets(0, 1), 200);
+        x.back(1);
+        DOC.due("who", x.who(0), 3);
+        DOC.due("who", x.who(1), 4);
+        DOC.due("kind", x.join(0, 0), OR);
+        DOC.due("mark", x.join(0, 1), 2);
+        DOC.due("gets", x.gets(0, 3), 900);
+        DOC.due("what was told", x.fits(NONE), 1);
+        DOC.due("what the judge holds", x.ruled(3), 900);
+        x.back(0);
+        DOC.due("none again", x.readings(), 0);
+        DOC.due("no law", x.force(0), -2);
+    }
+
     private static void fullImages() {
         DOC.says("all that it keeps is as it was then");
         CommaWill x = will("0&11|22!33&04|15!20");
@@ -323,6 +360,34 @@ public final class ImageBoundsTest extends Wills {
         int[] due = {10, 4, 3, 3, 3};
         for (int i = 0; i < 5; i++) {
             DOC.due("each by itself", x.count(7 + i), due[i]);
+        }
+    }
+
+    private static void othersAreNotCounted() {
+        DOC.says("how many calls were REFUSED");
+        CommaWill x = will("0&1");
+        x.turn(0, 1);
+        DOC.due("0 is an answer", x.turn(0, 0), 1);
+        DOC.due("0 is an answer", x.turn(0, 2), 0);
+        for (int p = 0; p < 5; p++) {
+            x.die(p);
+        }
+        DOC.due("0 is an answer", x.die(5), 0);
+        x.mark(0, 1);
+        DOC.due("0 is an answer", x.undo(), 0);
+        DOC.due("-1 is an answer", x.force(NONE), NONE);
+        x.pass();
+        x.terms(0, 0);
+        x.image(0);
+        x.back(0);
+        x.years(0, 1);
+        row(x, 9);
+        law(x, "bars");
+        orders(x, "die 9 if 1=2");
+        x.told(0, 0);
+        x.judge(0);
+        for (int what = 7; what <= 11; what++) {
+            DOC.due("none: " + what, x.count(what), 0);
         }
     }
 

@@ -137,8 +137,37 @@ public final class JudgeBoundsTest extends Wills {
         x = will("5|5|5|5");
         DOC.due("all alike", x.ask(0), 0);
         DOC.due("all are left", x.ask(1), 5);
+        x = will("0&1&2&3");
+        x.ask(0);
+        x.mark(0, 1);
+        DOC.due("two are left behind a mark", x.fits(NONE), 2);
+        DOC.due("1 tells them apart", x.ask(0), 1);
+        DOC.due("one is left", x.ask(1), 1);
+        askedOfSevenNames();
         x = will("0&0&0&5&5");
         DOC.due("0 as well as 5", x.ask(0), 0);
+    }
+
+    private static void askedOfSevenNames() {
+        for (String sentence : new String[] {"0&1&2&3&4&5&0", "0|1&2|3&4!5&0", "5&4|3&2|1&0!5"}) {
+            CommaWill x = will(sentence);
+            int whom = NONE;
+            int left = 133;
+            for (int p = 0; p < 6; p++) {
+                int[] alike = new int[1001];
+                int most = 0;
+                for (int r = 0; r < 132; r++) {
+                    alike[x.gets(r, p)]++;
+                    most = Math.max(most, alike[x.gets(r, p)]);
+                }
+                if (most < left) {
+                    whom = p;
+                    left = most;
+                }
+            }
+            DOC.due("whom of " + sentence, x.ask(0), whom);
+            DOC.due("left of " + sentence, x.ask(1), left);
+        }
     }
 
     private static void ask() {

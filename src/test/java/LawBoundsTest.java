@@ -157,6 +157,14 @@ public final class LawBoundsTest extends Wills {
         x.terms(2, 8);
         DOC.due("89 of 100, taxes 9", x.gets(0, 0), 890 - 80);
         DOC.due("not barred", x.of(1, 2), 0);
+        x.terms(0, 98);
+        DOC.due("88 of 100", x.gets(0, 0), 880);
+        x.pass();
+        DOC.due("89 of 100 a year later", x.gets(0, 0), 890);
+        x.pass();
+        DOC.due("80 of 100, taxes 1", x.gets(0, 0), 792);
+        x.undo();
+        DOC.due("89 of 100 again", x.gets(0, 0), 890);
     }
 
     private static void clauseThatHolds() {

@@ -13,6 +13,7 @@ public final class ReadingBoundsTest extends Wills {
         noneWithoutNames();
         takes();
         leftOut();
+        takesBelowABut();
         lostWhereNobodyTakes();
         shareIsCut();
         allToTheOneThatTakes();
@@ -23,9 +24,12 @@ public final class ReadingBoundsTest extends Wills {
         settleNoneLess();
         settleTheFewest();
         settleTheFirst();
+        settleSevenNames();
+        settleAsAllStands();
         settleGivesToAll();
         fairIsTheLowest();
         howManyReadings();
+        readingsByMarksOfMoreAndMore();
         depth();
         gets();
         lostNone();
@@ -158,6 +162,31 @@ public final class ReadingBoundsTest extends Wills {
         DOC.due("0 is left out", x.gets(0, 0), 0);
     }
 
+    private static void takesBelowABut() {
+        DOC.says("if one of both pieces TAKES; with a BUT, if the left does");
+        CommaWill x = will("0&1!22|33");
+        DOC.due("((0 and 1) but 2) or 3", x.gets(0, 0), 500);
+        x.die(0);
+        DOC.due("without 0", x.gets(0, 1), 1000);
+        x.die(1);
+        DOC.due("the but takes not", x.gets(0, 3), 1000);
+        DOC.due("(0 but 0) or 1", will("0!20|31").gets(0, 1), 1000);
+        DOC.due("(0 but (0 and 2)) or 1", will("0!20&2|31").gets(0, 1), 1000);
+        DOC.due("(0 but (2 and 0)) or 1", will("0!22&0|31").gets(0, 1), 1000);
+        x = will("0&1&22|33");
+        x.die(2);
+        DOC.due("((0 and 1) and 2) or 3, by the left", x.gets(0, 0), 500);
+        x = will("0|31&22&3");
+        x.die(0);
+        x.die(1);
+        DOC.due("0 or (1 and (2 and 3)), by the right", x.gets(0, 2), 500);
+        x = will("0&1!12!23|34");
+        DOC.due("(((0 and 1) but 2) but 3) or 4", x.gets(0, 1), 500);
+        x.die(0);
+        x.die(1);
+        DOC.due("none takes on the left", x.gets(0, 4), 1000);
+    }
+
     private static void lostWhereNobodyTakes() {
         DOC.says("WORTH goes to the whole row; what goes to a piece that TAKES not is LOST");
         CommaWill x = will("0&1");
@@ -266,6 +295,7 @@ public final class ReadingBoundsTest extends Wills {
         // 500 250 250 and 250 500 250: alike but for who gets it.
         DOC.due("the same amounts to others", lawful("0&1&2", "shares 50").unlike(), 2);
         DOC.due("unlike in the last person alone", lawful("4&5&5", "taxes 100 if heir = 4").unlike(), 2);
+        DOC.due("unlike in the first person alone", lawful("0&0&1", "taxes 100 if heir = 1").unlike(), 2);
     }
 
     private static void settleNoneLess() {
@@ -317,6 +347,95 @@ public final class ReadingBoundsTest extends Wills {
         DOC.due("0 1 0", x.settle(2, 2), 1);
     }
 
+    private static void settleAsAllStands() {
+        DOC.says("gives to all what that one gives now");
+        CommaWill x = will("0&1|2");
+        law(x, "shares 100");
+        DOC.due("both give alike", x.settle(0, 0), 0);
+        x.die(1);
+        DOC.due("behind a death", x.settle(0, 0), 1);
+        x.undo();
+        DOC.due("undone", x.settle(0, 0), 0);
+        x.turn(1, AND);
+        DOC.due("behind a turn", x.settle(0, 0), 1);
+        x.terms(1, 0);
+        DOC.due("of nothing", x.settle(0, 0), 0);
+        x.terms(1, 1000);
+        DOC.due("of 1000", x.settle(0, 0), 1);
+        x.force(0);
+        DOC.due("by a law that gives all to the left", x.settle(0, 0), 0);
+        x.force(NONE);
+        x.mark(1, 1);
+        DOC.due("reading 0 is another one behind a mark", x.settle(0, 0), 0);
+        x.mark(0, 1);
+        DOC.due("two again", x.settle(0, 0), 1);
+        x = lawful("0&1&2&3&14&25&30", "shares 10 + join * 7 + left");
+        DOC.due("0 0 0 1 2 3: five", x.readings(), 5);
+        for (int r = 0; r < 5; r++) {
+            DOC.due("no room above for " + r, x.settle(r, 0), NONE);
+        }
+    }
+
+    private static void settleSevenNames() {
+        DOC.says("the fewest MARKS more together; the first as a row by JOINS.");
+        CommaWill x = will("0|1|2|3|4|4&5");
+        // Half to 5, if the AND is on top (90 .. 131), else all to 0.
+        for (int r : new int[] {0, 63, 64, 89}) {
+            DOC.due("an or is on top of " + r, x.gets(r, 0), 1000);
+            DOC.due("one more", x.settle(r, 0), 1);
+            for (int j = 0; j < 6; j++) {
+                DOC.due("0 0 0 0 1 0", x.settle(r, 1 + j), j == 4 ? 1 : 0);
+            }
+        }
+        for (int r : new int[] {90, 127, 128, 131}) {
+            DOC.due("the and is on top of " + r, x.gets(r, 5), 500);
+            DOC.due("one more", x.settle(r, 0), 1);
+            for (int j = 0; j < 6; j++) {
+                DOC.due("0 0 0 0 0 1", x.settle(r, 1 + j), j == 5 ? 1 : 0);
+            }
+        }
+        x = will("5&0|1|2|3|4|4");
+        x.die(0);
+        // Half to 5, if the AND is above the first OR, else all.
+        DOC.due("the and is on top of 41", x.gets(41, 5), 500);
+        DOC.due("the first or of 42", x.gets(42, 5), 1000);
+        DOC.due("one more", x.settle(41, 0), 1);
+        DOC.due("1 0 0 0 0 0", x.settle(41, 1), 1);
+        DOC.due("one more", x.settle(42, 0), 1);
+        DOC.due("0 1 0 0 0 0", x.settle(42, 2), 1);
+        DOC.due("the first or is above the and in 131", x.settle(131, 0), 1);
+        DOC.due("by no mark", will(SEVEN).settle(0, 0), NONE);
+        DOC.due("nor the last", will(SEVEN).settle(131, 0), NONE);
+        settlesBy(4, 0, 1, 0, 2, 0, 1);
+        settlesBy(7, 3, 1, 0, 2, 0, 1);
+        settlesBy(7, 1, 0, 2, 0, 1, 3);
+        settlesBy(7, 2, 1, 0, 3, 1, 0);
+    }
+
+    /** The READING that these MARKS alone leave of seven names has no fewer to be settled by. */
+    private static void settlesBy(int more, int... marks) {
+        CommaWill marked = will("0");
+        for (int j = 0; j < 6; j++) {
+            marked.name(0, marks[j], (j + 1) % 6);
+        }
+        DOC.due("one reading", marked.readings(), 1);
+        CommaWill x = lawful(SEVEN, "shares 10 + join * 7 + left");
+        x.terms(1, 9999);
+        DOC.due("all are unlike", x.unlike(), 132);
+        int reading = 0;
+        for (int r = 0; r < 132; r++) {
+            boolean isSame = true;
+            for (int j = 0; j < 6; j++) {
+                isSame = isSame && x.depth(r, j) == marked.depth(0, j);
+            }
+            reading = isSame ? r : reading;
+        }
+        DOC.due("more", x.settle(reading, 0), more);
+        for (int j = 0; j < 6; j++) {
+            DOC.due("mark then", x.settle(reading, 1 + j), marks[j]);
+        }
+    }
+
     private static void settleGivesToAll() {
         DOC.says("by which each READING there is then gives to all what that one gives now");
         CommaWill x = will("0&0&1&1");
@@ -346,6 +465,11 @@ public final class ReadingBoundsTest extends Wills {
         DOC.due("least", x.fair(1), 250);
         x.die(1);
         DOC.due("the dead count not", x.fair(1), 500);
+        x = will("0&1&2&3");
+        x.fair(0);
+        x.mark(0, 1);
+        DOC.due("the fairest is no reading behind a mark", x.fair(1), 125);
+        DOC.due("the lowest of two", x.fair(0), 0);
         x = lawful("0&1", "bars if heir = 0");
         DOC.due("the barred count not", x.fair(1), 1000);
         x = will("0|1");
@@ -370,6 +494,26 @@ public final class ReadingBoundsTest extends Wills {
         }
         x.name(0, 0, 0);
         DOC.due("behind a refused name", x.readings(), 132);
+    }
+
+    private static void readingsByMarksOfMoreAndMore() {
+        DOC.says("How many READINGS there are.");
+        int[] catalan = {1, 1, 2, 5, 14, 42, 132};
+        CommaWill x = new CommaWill();
+        x.image(0);
+        for (int round = 0; round < 2; round++) {
+            write(x, "0&1");
+            for (int joins = 2; joins <= 6; joins++) {
+                x.name(0, 0, 5);
+                DOC.due("all", x.readings(), catalan[joins]);
+                DOC.due("the first on top", x.mark(0, 1), catalan[joins - 1]);
+                DOC.due("the last, too", x.mark(joins - 1, 1), joins == 2 ? 2 : 2 * catalan[joins - 2]);
+                DOC.due("the last alone", x.mark(0, 0), catalan[joins - 1]);
+                DOC.due("all again", x.mark(joins - 1, 0), catalan[joins]);
+            }
+            x.back(0);
+            DOC.due("none", x.readings(), 0);
+        }
     }
 
     private static void depth() {

@@ -16,6 +16,7 @@ public final class TextBoundsTest extends Wills {
         numbers();
         fiftyParts();
         eightBrackets();
+        manyTexts();
         faultAtAToken();
         faultAtTheEnd();
         brokenBeyond();
@@ -168,6 +169,15 @@ public final class TextBoundsTest extends Wills {
         asks("2=2", true);
         asks("1=2", false);
         asks("not 1=2", true);
+        asks("not 2<1", true);
+        asks("not 1<2", false);
+        asks("not 1>2", true);
+        asks("not 2>1", false);
+        asks("2<1 and 1=1", false);
+        asks("1>2 and 1=1", false);
+        asks("2<1 or 1=1", true);
+        asks("1>2 or 1=1", true);
+        asks("not (1>2 or 2<1)", true);
         asks("not not 1=2", false);
         asks("not 1=1 or 1=1", true);
         asks("not (1=1 or 1=1)", false);
@@ -292,6 +302,29 @@ public final class TextBoundsTest extends Wills {
         ordersFault("die " + "[".repeat(9) + "1" + "]".repeat(9), 12);
     }
 
+    private static void manyTexts() {
+        DOC.says("(FAULT at the 51st), 8 brackets of both kinds within one another (FAULT at the 9th) at most.");
+        CommaWill x = will("0&1");
+        String deep = "[".repeat(8) + "1" + "]".repeat(8);
+        for (int i = 0; i < 4; i++) {
+            DOC.due("eight open at its end", law(x, "shares " + "[".repeat(8)), -6);
+            DOC.due("fault", x.fault(), 15);
+            DOC.due("eight open at its end", orders(x, "pass if " + "(".repeat(8)), -6);
+            DOC.due("fault", x.fault(), 16);
+            DOC.due("eight again", orders(x, "pass times " + (i + 1) + " if " + deep + "=1"), i + 1);
+        }
+        x.image(0);
+        String fifty = "1" + "+1".repeat(48);
+        for (int i = 0; i < 16; i++) {
+            DOC.due("fifty parts each", law(x, "shares " + fifty + "-" + i), 0);
+            x.force(0);
+            DOC.due("each as the first", x.gets(0, 0), 490 - 10 * i);
+            x.back(0);
+            DOC.due("and in orders", orders(x, "die " + fifty + "-49 if 1=2"), -6);
+            DOC.due("51st", x.fault(), 108);
+        }
+    }
+
     private static void faultAtAToken() {
         DOC.says("FAULT: the first TOKEN that can't go on there");
         lawFault("x", 0);
@@ -329,6 +362,16 @@ public final class TextBoundsTest extends Wills {
         lawFault("shares", 6);
         lawFault("shares  ", 8);
         lawFault("shares 1 +  ", 12);
+        lawFault("shares [", 8);
+        lawFault("shares [1+", 10);
+        lawFault("shares [[1]", 11);
+        lawFault("bars if (", 9);
+        lawFault("bars if (1=", 11);
+        lawFault("bars if (1=1 or", 15);
+        lawFault("bars if (1=1 and not", 20);
+        lawFault("shares" + " ".repeat(394), 400);
+        lawFault("shares 1" + "+".repeat(1) + " ".repeat(391), 400);
+        lawFault("bars if (1" + " ".repeat(390), 400);
         lawFault("bars if (1 = 1  ", 16);
         ordersFault("", 0);
         ordersFault("   ", 3);
@@ -341,6 +384,25 @@ public final class TextBoundsTest extends Wills {
         x.end(5);
         DOC.due("the length is the TAPE's", x.law(), -6);
         DOC.due("what was cut counts not", x.fault(), 5);
+        cutAt("shares 5", 7);
+        cutAt("shares [5]", 7);
+        cutAt("shares [5]", 9);
+        cutAt("shares 1+year", 9);
+        cutAt("bars if 1=1", 8);
+        cutAt("bars if 1=1", 9);
+        cutAt("bars if (1=1)", 8);
+        cutAt("bars if (1=1)", 12);
+        cutAt("bars if not 1=1", 12);
+        cutAt("bars;bars", 5);
+    }
+
+    /** A law that could be, but for what end() takes from it. */
+    private static void cutAt(String text, int place) {
+        CommaWill x = new CommaWill();
+        Check.put(x, text);
+        x.end(place);
+        DOC.due(text + " cut at " + place, x.law(), -6);
+        DOC.due("fault of " + text + " cut at " + place, x.fault(), place);
     }
 
     private static void brokenBeyond() {

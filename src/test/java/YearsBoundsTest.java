@@ -136,6 +136,16 @@ public final class YearsBoundsTest extends Wills {
         DOC.due("one reading by a mark", x.years(8, 1), 1);
         x = lawful("4&5&5", "taxes 100 if heir = 4");
         DOC.due("unlike in the last person alone", x.years(0, 1), 0);
+        x = lawful("0&0&1", "taxes 100 if heir = 1");
+        DOC.due("unlike in the first person alone", x.years(0, 1), 0);
+        x = will("0&1&2");
+        DOC.due("two readings", x.years(0, 1), 0);
+        x.mark(0, 1);
+        DOC.due("one of them behind a mark", x.years(0, 1), 1);
+        x = will("0|1|2|3&4");
+        DOC.due("14 readings", x.years(0, 1), 0);
+        x.mark(3, 1);
+        DOC.due("the and on top: five that give alike", x.years(0, 1), 1);
     }
 
     private static void onPaper() {

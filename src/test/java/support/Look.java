@@ -15,6 +15,13 @@ final class Look {
         this.x = x;
     }
 
+    /** What it answers as it stands. */
+    static Map<String, Long> at(CommaWill x) {
+        Look look = new Look(x);
+        look.askAll();
+        return look.answers;
+    }
+
     /** What it answers, and what it would answer behind undo(), back() and row(); it is used up then. */
     static Map<String, Long> through(CommaWill x) {
         Look look = new Look(x);

@@ -19,11 +19,41 @@ final class TextMaker {
     }
 
     String law() {
-        return make(true);
+        return random.nextInt(12) == 0 ? heap("shares", LAW_WORDS) : make(true);
     }
 
     String orders() {
-        return make(false);
+        return random.nextInt(12) == 0 ? heap("die", ORDER_WORDS) : make(false);
+    }
+
+    /** A head with a long row of parts and signs, near to the limits of parts and brackets. */
+    private String heap(String head, String[] words) {
+        text.setLength(0);
+        word(head);
+        int open = 0;
+        int parts = 44 + random.nextInt(9);
+        for (int i = 0; i < parts; i++) {
+            if (i > 0) {
+                word("" + "+++--*/%".charAt(random.nextInt(8)));
+            }
+            for (; random.nextInt(3) == 0 && open < 9; open++) {
+                word("[");
+            }
+            word(random.nextInt(3) == 0 ? words[random.nextInt(words.length)] : "" + random.nextInt(9));
+            for (; random.nextInt(3) == 0 && open > 0; open--) {
+                word("]");
+            }
+        }
+        for (; open > 0; open--) {
+            word("]");
+        }
+        if (random.nextInt(4) == 0) {
+            word(ODD[random.nextInt(ODD.length)]);
+        }
+        if (text.length() > 400) {
+            text.setLength(400);
+        }
+        return text.toString();
     }
 
     private String make(boolean asLaw) {
