@@ -26,6 +26,7 @@ public final class ReadingBoundsTest extends Wills {
         settleTheFirst();
         settleSevenNames();
         settleAsAllStands();
+        settleOneOfFive();
         settleGivesToAll();
         fairIsTheLowest();
         howManyReadings();
@@ -373,6 +374,24 @@ public final class ReadingBoundsTest extends Wills {
         DOC.due("0 0 0 1 2 3: five", x.readings(), 5);
         for (int r = 0; r < 5; r++) {
             DOC.due("no room above for " + r, x.settle(r, 0), NONE);
+        }
+    }
+
+    private static void settleOneOfFive() {
+        DOC.says("To SETTLE a READING");
+        CommaWill x = lawful("0&1&2&3&14&25&30",
+                "shares 100; shares 0 if join = 0; shares 0 if join = 2 and left = 2");
+        int[] all = {1, 3, 1, 1, 1};
+        for (int r = 0; r < 5; r++) {
+            DOC.due("all goes to one", x.gets(r, all[r]), 1000);
+        }
+        // The one that gives otherwise has JOIN 2 below JOIN 0 and above JOIN 1.
+        for (int r : new int[] {0, 2, 3, 4}) {
+            DOC.due("one more", x.settle(r, 0), 1);
+            int[] due = {0, 0, 1, 1, 2, 3};
+            for (int j = 0; j < 6; j++) {
+                DOC.due("mark then", x.settle(r, 1 + j), due[j]);
+            }
         }
     }
 
