@@ -1758,6 +1758,9 @@ public final class CommaWill {
          * the MARKS ahead of it rule out come as a set of three longs.
          */
         private boolean spread(int join, int left, long a, long b, long c) {
+            if (forest == null || least == null) {
+                return false;
+            }
             if (join >= forest.joins) {
                 return left == 0 && (wrong[0] & ~a) == 0 && (wrong[1] & ~b) == 0
                         && (wrong[2] & ~c) == 0;

@@ -32,6 +32,7 @@ public final class LanguageTest {
         members();
         forbidden(bare(source));
         methodsStayShort(source);
+        nullsAreLookedAt(bare(source));
         CHECK.finish();
     }
 
@@ -127,5 +128,20 @@ public final class LanguageTest {
                 }
             }
         }
+    }
+
+    /** A field that is null at first is compared with null somewhere in the class that has it. */
+    private static void nullsAreLookedAt(String bare) {
+        Pattern nullable = Pattern.compile("(\\w+) = null;");
+        int found = 0;
+        for (String inside : bare.split("\\bclass\\b")) {
+            Matcher m = nullable.matcher(inside);
+            while (m.find()) {
+                found++;
+                isSo(inside.trim().split("\\W")[0] + " looks whether " + m.group(1) + " is null",
+                        Pattern.compile("\\b" + m.group(1) + " [=!]= null").matcher(inside).find());
+            }
+        }
+        isSo("fields that are null at first were found", found > 0);
     }
 }
